@@ -33,6 +33,7 @@ public final class InnRegister {
     private final Circles circles = new Circles();
     private final Games games = new Games();
     private Rule rule = new Rule();
+    /** Takes each text first, so that a faulty one leaves THE RULE as it is. */
     private Rule spare = new Rule();
 
     public InnRegister() {
@@ -78,7 +79,7 @@ public final class InnRegister {
     }
 
     public int rule() {
-        int fault = readSpareRule();
+        int fault = spare.read(text);
         if (fault != FINE) {
             return -1 - fault;
         }
@@ -443,7 +444,7 @@ public final class InnRegister {
     }
 
     public int law() {
-        int fault = readSpareRule();
+        int fault = spare.read(text);
         if (fault != FINE) {
             return LAW_FAULT - fault;
         }
@@ -534,13 +535,6 @@ public final class InnRegister {
             past.push();
         }
         return answer;
-    }
-
-    /** The spare rule takes the text, so that a faulty one leaves THE RULE as it is. */
-    private int readSpareRule() {
-        int fault = spare.read(text);
-        text.clear();
-        return fault;
     }
 
     /** The least of some guests; 32 of nobody. */
@@ -1004,7 +998,9 @@ public final class InnRegister {
     /** A rule: read by descent into codes, each thing ahead of what is done with it. */
     private static final class Rule {
         private static final int MOST_DEPTH = 4;
+        private static final int MOST_LEVEL = 2;
         private static final int THING = 1000;
+        private static final int NO_RULE = THING + 3;
         private static final int DEED = 2000;
         private static final int NEGATE = 3000;
         private static final int MOST_WORTH = 99;
@@ -1018,23 +1014,26 @@ public final class InnRegister {
         private int at;
 
         Rule() {
-            codes[0] = THING + 3;
+            codes[0] = NO_RULE;
             size = 1;
         }
 
+        /** Empties THE TEXT; a rule with a fault is no rule any more. */
         int read(Text text) {
-            stop = Math.min(text.length, MOST_RULE_SIGNS);
+            int length = text.length;
+            stop = Math.min(length, MOST_RULE_SIGNS);
             for (int p = 0; p < stop; p++) {
                 signs[p] = text.at(p);
             }
+            text.clear();
             at = 0;
             size = 0;
-            if (text.length == 0) {
-                emit(THING + 3);
+            if (length == 0) {
+                emit(NO_RULE);
                 return FINE;
             }
-            boolean whole = readComparison(0) && at == stop;
-            return whole && text.length <= MOST_RULE_SIGNS ? FINE : at;
+            boolean whole = readLevel(0, 0) && at == stop;
+            return whole && length <= MOST_RULE_SIGNS ? FINE : at;
         }
 
         private void emit(int code) {
@@ -1048,48 +1047,38 @@ public final class InnRegister {
             return at < stop ? signs[at] : NONE;
         }
 
-        private boolean readComparison(int depth) {
-            if (!readSum(depth)) {
-                return false;
+        /** Levels: 0 comparisons, 1 sums, 2 products; what binds more stands within what binds less. */
+        private boolean readLevel(int level, int depth) {
+            if (level > MOST_LEVEL) {
+                return readSigned(depth);
             }
-            int deed = here();
-            if (deed != '<' && deed != '>' && deed != '=') {
-                return true;
-            }
-            at++;
-            if (!readSum(depth)) {
-                return false;
-            }
-            emit(DEED + deed);
-            return true;
-        }
-
-        private boolean readSum(int depth) {
-            boolean good = readProduct(depth);
-            for (int turn = 0; turn < MOST_RULE_SIGNS && good; turn++) {
+            boolean good = readLevel(level + 1, depth);
+            // one comparison can't stand behind another one
+            int most = level == 0 ? 1 : MOST_RULE_SIGNS;
+            for (int turn = 0; turn < most && good && levelOf(here()) == level; turn++) {
                 int deed = here();
-                if (deed != '+' && deed != '-') {
-                    return true;
-                }
                 at++;
-                good = readProduct(depth);
+                good = readLevel(level + 1, depth);
                 emit(DEED + deed);
             }
             return good;
         }
 
-        private boolean readProduct(int depth) {
-            boolean good = readSigned(depth);
-            for (int turn = 0; turn < MOST_RULE_SIGNS && good; turn++) {
-                int deed = here();
-                if (deed != '*' && deed != '/') {
-                    return true;
-                }
-                at++;
-                good = readSigned(depth);
-                emit(DEED + deed);
+        private static int levelOf(int sign) {
+            switch (sign) {
+                case '<':
+                case '>':
+                case '=':
+                    return 0;
+                case '+':
+                case '-':
+                    return 1;
+                case '*':
+                case '/':
+                    return 2;
+                default:
+                    return NONE;
             }
-            return good;
         }
 
         private boolean readSigned(int depth) {
@@ -1109,7 +1098,7 @@ public final class InnRegister {
             int sign = here();
             if (sign == '(' && depth < MOST_DEPTH) {
                 at++;
-                boolean closed = readComparison(depth + 1) && here() == ')';
+                boolean closed = readLevel(0, depth + 1) && here() == ')';
                 if (closed) {
                     at++;
                 }
@@ -1515,6 +1504,7 @@ public final class InnRegister {
     private static final class Costs {
         private int[] cost = new int[1];
         private final int[] worth = new int[MOST_GUESTS * SETS];
+        /** i x c m k t f of an EVENT. */
         private final int[] things = new int[7];
         private final int[] mates = new int[MOST_GUESTS];
         private final int[] wrongIn = new int[MOST_GUESTS];
@@ -1552,18 +1542,21 @@ public final class InnRegister {
                 things[0] = guest;
                 things[1] = told.room[guest];
                 things[6] = Integer.bitCount(told.met[guest]);
-                for (int inside = 0; inside <= told.size; inside++) {
-                    for (int left = 0; left + inside <= told.size; left++) {
-                        things[3] = inside;
-                        things[4] = left;
-                        things[5] = inside + 2 * left;
-                        things[2] = 0;
-                        worth[worthAt(guest, 0, inside, left)] = rule.worth(things);
-                        things[2] = 1;
-                        worth[worthAt(guest, 1, inside, left)] = rule.worth(things);
+                for (int others = 0; others < told.size; others++) {
+                    for (int left = 0; left + others < told.size; left++) {
+                        worth[worthAt(guest, 1, others, left)] = worthOf(rule, 1, others, left);
+                        worth[worthAt(guest, 0, others + 1, left)] = worthOf(rule, 0, others + 1, left);
                     }
                 }
             }
+        }
+
+        private int worthOf(Rule rule, int comes, int inside, int left) {
+            things[2] = comes;
+            things[3] = inside;
+            things[4] = left;
+            things[5] = inside + 2 * left;
+            return rule.worth(things);
         }
 
         private static int worthAt(int guest, int comes, int inside, int left) {

@@ -38,6 +38,17 @@ public final class FaceTests {
             }
             found.add(text.append(")").toString());
         }
+        for (Class<?> inside : InnRegister.class.getDeclaredClasses()) {
+            int kind = inside.getModifiers();
+            if (!Modifier.isStatic(kind) || Modifier.isPublic(kind) || Modifier.isProtected(kind)) {
+                wrong.add("class " + inside.getName());
+            }
+            for (Method method : inside.getDeclaredMethods()) {
+                if (names.contains(method.getName())) {
+                    wrong.add("method " + method.getName() + " of " + inside.getName());
+                }
+            }
+        }
         if (!found.equals(due)) {
             TreeSet<String> more = new TreeSet<>(found);
             more.removeAll(due);
