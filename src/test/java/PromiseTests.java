@@ -1,86 +1,5 @@
-import java.util.NoSuchElementException;
-
 /** For each promise of the document: ordinary inputs, the edges it names, wrong inputs. */
-public final class PromiseTests {
-    private static int passed = 0;
-    private static int failed = 0;
-    private static String promise = "";
-
-    private static void due(String what, long got, long want) {
-        if (got == want) {
-            passed++;
-        } else {
-            failed++;
-            System.out.println(promise + ": " + what + " answered " + got + ", due is " + want);
-        }
-    }
-
-    private interface Asked {
-        long answer();
-    }
-
-    private static void none(String what, Asked call) {
-        try {
-            long got = call.answer();
-            failed++;
-            System.out.println(promise + ": " + what + " answered " + got + ", due is a NoSuchElementException");
-        } catch (NoSuchElementException e) {
-            passed++;
-        }
-    }
-
-    private static void row(InnRegister x, long... want) {
-        due("count(7)", x.count(7), want.length);
-        for (int i = 0; i < want.length && i < x.count(7); i++) {
-            due("row(" + i + ")", x.row(i), want[i]);
-        }
-        none("row(" + want.length + ")", () -> x.row(want.length));
-    }
-
-    private static InnRegister text(InnRegister x, String text) {
-        x.end(0);
-        for (int at = 0; at < text.length(); at += 4) {
-            int v = 0;
-            for (int i = 0; i < 4; i++) {
-                v = v << 8 | (at + i < text.length() ? text.charAt(at + i) : 0);
-            }
-            x.sign(v);
-        }
-        due("end of " + text, x.end(text.length()) ? 1 : 0, 1);
-        return x;
-    }
-
-    private static InnRegister inn(String guests, String meetings) {
-        InnRegister x = new InnRegister();
-        due("guests of " + guests, text(x, guests).guests(), (guests.length() + 1) / 2);
-        due("meetings of " + meetings, text(x, meetings).meetings() < 0 ? 1 : 0, 0);
-        return x;
-    }
-
-    private static int guests(InnRegister x, String text) {
-        return text(x, text).guests();
-    }
-
-    private static int meetings(InnRegister x, String text) {
-        return text(x, text).meetings();
-    }
-
-    private static int rule(InnRegister x, String text) {
-        return text(x, text).rule();
-    }
-
-    private static int story(InnRegister x, String text) {
-        return text(x, text).story();
-    }
-
-    private static int law(InnRegister x, String text) {
-        return text(x, text).law();
-    }
-
-    private static String times(String text, int many) {
-        return text.repeat(many);
-    }
-
+public final class PromiseTests extends Checks {
     public static void main(String[] args) {
         newObject();
         signAndEnd();
@@ -128,10 +47,7 @@ public final class PromiseTests {
         countAndRow();
         refusedChangesNothing();
         answersKeepUp();
-        System.out.println("promises: " + passed + " checks as due, " + failed + " not");
-        if (failed > 0) {
-            System.exit(1);
-        }
+        finish("promises");
     }
 
     private static void newObject() {
@@ -1182,6 +1098,33 @@ public final class PromiseTests {
         due("copies()", x.orders(), 44);
         x.years(5, 50);
         due("years()", x.orders(), 44);
+        sharesKeepUp();
+    }
+
+    private static void sharesKeepUp() {
+        InnRegister x = inn("0;0;0", "01+;12+;02-");
+        x.before(0, 1);
+        row(x, 1, 4);
+        x.place(1, 2);
+        row(x, 0, 1);
+        x.tells(0, 1, 2);
+        x.tells(1, 2, 2);
+        x.tells(0, 2, 2);
+        x.before(0, 1);
+        row(x, 1, 2);
+        x.place(1, 2);
+        row(x, 1, 3);
+        x.met(0, 1);
+        row(x, 2, 3);
+        x.undo();
+        x.undo();
+        x.undo();
+        x.before(0, 1);
+        row(x, 1, 4);
+        x.place(1, 2);
+        row(x, 0, 1);
+        x.met(0, 2);
+        row(x, 0, 1);
     }
 
     private static void refusedChangesNothing() {

@@ -4,7 +4,8 @@ import java.util.function.ToLongFunction;
 /** A whole run of 512 calls with seven guests makes little that is new: rows are used again. */
 public final class RoomTests {
     private static final int CALLS = 512;
-    private static final long MOST_BYTES = 1_000_000;
+    /** The room has 7.3 million fields and elements; each takes a byte at least. */
+    private static final long MOST_BYTES = 7_300_000;
 
     private static long made() {
         com.sun.management.ThreadMXBean bean = (com.sun.management.ThreadMXBean) ManagementFactory.getThreadMXBean();
