@@ -1049,16 +1049,13 @@ public final class InnRegister {
 
         /** Levels: 0 comparisons, 1 sums, 2 products; what binds more stands within what binds less. */
         private boolean readLevel(int level, int depth) {
-            if (level > MOST_LEVEL) {
-                return readSigned(depth);
-            }
-            boolean good = readLevel(level + 1, depth);
+            boolean good = readWithin(level, depth);
             // one comparison can't stand behind another one
             int most = level == 0 ? 1 : MOST_RULE_SIGNS;
             for (int turn = 0; turn < most && good && levelOf(here()) == level; turn++) {
                 int deed = here();
                 at++;
-                good = readLevel(level + 1, depth);
+                good = readWithin(level, depth);
                 emit(DEED + deed);
             }
             return good;
@@ -1081,7 +1078,11 @@ public final class InnRegister {
             }
         }
 
-        private boolean readSigned(int depth) {
+        /** The next level, or behind the last one a thing with the - ahead of it. */
+        private boolean readWithin(int level, int depth) {
+            if (level < MOST_LEVEL) {
+                return readLevel(level + 1, depth);
+            }
             boolean negative = false;
             for (int turn = 0; turn < MOST_RULE_SIGNS && here() == '-'; turn++) {
                 negative = !negative;
@@ -1825,25 +1826,25 @@ public final class InnRegister {
 
         int fewestRooms(Told told, Row row) {
             int enough = 0;
-            while (enough < told.size && !canLodge(told, 0, 0, enough)) {
+            while (enough < told.size && !canLodge(told, turn, 0, 0, enough)) {
                 enough++;
             }
             if (enough == told.size) {
-                canLodge(told, 0, 0, enough);
+                canLodge(told, turn, 0, 0, enough);
             }
             tell(turn, told.size, row);
             return enough;
         }
 
         /** Rooms in use are 0 .. used - 1: the least row never leaves one out. */
-        private boolean canLodge(Told told, int guest, int used, int enough) {
+        private static boolean canLodge(Told told, int[] lodged, int guest, int used, int enough) {
             if (guest >= told.size) {
                 return true;
             }
             for (int room = 0; room <= used && room < enough; room++) {
-                if (isFree(told, guest, room)) {
-                    turn[guest] = room;
-                    if (canLodge(told, guest + 1, Math.max(used, room + 1), enough)) {
+                if (isFree(told, lodged, guest, room)) {
+                    lodged[guest] = room;
+                    if (canLodge(told, lodged, guest + 1, Math.max(used, room + 1), enough)) {
                         return true;
                     }
                 }
@@ -1851,9 +1852,9 @@ public final class InnRegister {
             return false;
         }
 
-        private boolean isFree(Told told, int guest, int room) {
+        private static boolean isFree(Told told, int[] lodged, int guest, int room) {
             for (int other = 0; other < guest; other++) {
-                if (turn[other] == room && (told.met[guest] >> other & 1) == 1) {
+                if (lodged[other] == room && (told.met[guest] >> other & 1) == 1) {
                     return false;
                 }
             }

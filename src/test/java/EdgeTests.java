@@ -631,6 +631,10 @@ public final class EdgeTests extends Checks {
         signsOfARule();
         ruleEndsTooEarly();
         ruleStaysIfRefused();
+        eachSignOfGuests();
+        eachSignOfMeetings();
+        eachSignOfARule();
+        eachSignOfAStory();
     }
 
     private static void newObjectHasNoGuests() {
@@ -886,6 +890,81 @@ public final class EdgeTests extends Checks {
         due("rule", rule(x, "7"), 0);
         due("7", x.cheapest(), 10014);
         due("no step", x.count(6), 0);
+    }
+
+    private interface Reader {
+        int read(InnRegister x, String text);
+    }
+
+    /** Behind what is there each of the 256 signs is tried; fault: the answer if the first sign can't stand. */
+    private static void eachSign(String guests, Reader reader, int fault, String there, String good) {
+        for (char sign = 0; sign < 256; sign++) {
+            InnRegister x = guests.isEmpty() ? new InnRegister() : inn(guests, "");
+            int answer = reader.read(x, there + sign);
+            int here = fault - there.length();
+            if (good.indexOf(sign) < 0) {
+                due("'" + there + "' and sign " + (int) sign, answer, here);
+            } else {
+                due("'" + there + "' and " + sign + " can stand", answer == here - 1 || answer > fault, true);
+            }
+        }
+    }
+
+    private static void eachSignOfGuests() {
+        says("4", "a digit (ROOM); LINES with ; between; the sign at p can't stand there");
+        String digits = "0123456789";
+        String[][] places = {{"", digits}, {"1", ";"}, {"1;", digits}, {"0;9", ";"}, {"1;2;3;4;5;6;", digits}};
+        for (String[] one : places) {
+            eachSign("", Checks::guests, -1, one[0], one[1]);
+        }
+        eachSign("1;2;3;4;5", Checks::guests, -1, "1;2", ";");
+        eachSign("1;2;3;4;5", Checks::guests, -1, "1;2;", "");
+        eachSign("1;2;3;4;5;6;7", Checks::guests, -1, "", "");
+    }
+
+    private static void eachSignOfMeetings() {
+        says("5", "two digits (GUESTS that are there, not the same), and + - or ?; the sign at p can't stand there");
+        String[][] places = {{"", "012"}, {"0", "12"}, {"1", "02"}, {"2", "01"}, {"10", "+-?"}, {"10+", ";"},
+            {"10+;", "012"}, {"10+;2", "01"}, {"10+;21", "+-?"}, {"10+;21?", ";"}};
+        for (String[] one : places) {
+            eachSign("0;0;0", Checks::meetings, -1, one[0], one[1]);
+        }
+        eachSign("", Checks::meetings, -1, "", "");
+        eachSign("0", Checks::meetings, -1, "", "0");
+        eachSign("0", Checks::meetings, -1, "0", "");
+        eachSign(SEVEN, Checks::meetings, -1, "", "0123456");
+        eachSign(SEVEN, Checks::meetings, -1, "6", "012345");
+    }
+
+    private static void eachSignOfARule() {
+        String digits = "0123456789";
+        String start = digits + "ixcmktf-(";
+        String sums = "+-*/";
+        String deeds = sums + "<>=";
+        String[][] places = {{"", start}, {"m", deeds}, {"1", digits + deeds}, {"12", digits + deeds}, {"123", deeds},
+            {"m+", start}, {"m-", start}, {"m*", start}, {"m/-", start}, {"m<", start}, {"--", start}, {"-1", digits + deeds},
+            {"(", start}, {"(m", deeds + ")"}, {"(1", digits + deeds + ")"}, {"(m)", deeds}, {"(m<", start},
+            {"m<m", sums}, {"m=12", digits + sums}, {"m>123", sums}, {"m<1+f", sums}, {"(m=m", sums + ")"}, {"(m=m)", deeds},
+            {"(m)>1", digits + sums}, {"(((", start}, {"((((", start.replace("(", "")}, {"((((-", start.replace("(", "")},
+            {"((((m", deeds + ")"}, {"((((m)", deeds + ")"}, {"((((m))))", deeds}};
+        for (String[] one : places) {
+            says("6", "the sign at p can't stand there");
+            eachSign("", Checks::rule, -1, one[0], one[1]);
+            says("41", "the sign at p can't stand there (as rule())");
+            eachSign("", Checks::law, -100000, one[0], one[1]);
+        }
+    }
+
+    private static void eachSignOfAStory() {
+        says("15", "the sign at p can't stand there");
+        String digits = "0123456789";
+        String letters = "mhcrs";
+        String[][] places = {{"", letters}, {"m", digits}, {"m0", digits}, {"m01", "+-?"}, {"m01+", letters}, {"h", digits},
+            {"h0", letters}, {"c", digits}, {"c0", digits}, {"c01", letters}, {"r", digits}, {"r0", digits}, {"r01", letters},
+            {"s", "01"}, {"s1", letters}, {"s0m", digits}, {"m99?", letters}};
+        for (String[] one : places) {
+            eachSign("0;0;0", Checks::story, -1, one[0], one[1]);
+        }
     }
 
     // ---- guests and acts
@@ -1401,6 +1480,7 @@ public final class EdgeTests extends Checks {
         withoutGuests();
         oneGuestAlone();
         fewestAndMostOrders();
+        beginningsThatLeadNowhere();
         noneFitsLeavesTheRow();
         shareOfNoneSuch();
         surePairs();
@@ -1508,6 +1588,26 @@ public final class EdgeTests extends Checks {
         x.tells(0, 6, 1);
         due("two of whom MET", x.orders(), 0);
         due("a ring of four", net(4, "01+;12+;23+;30+").orders(), 0);
+    }
+
+    /** 2 met 0, 0 met 1, 1 met 3: if 0 and 1 come first of all, neither of the other two can come any more. */
+    private static void beginningsThatLeadNowhere() {
+        says("18, 25 and 27 to 29", "an ORDER that FITS, to its end");
+        InnRegister x = net(4, "02+;01+;13+");
+        due("orders", x.orders(), 8);
+        due("first", x.first(), 8);
+        row(x, 0, 4, 5, 2, 1, 6, 3, 7);
+        due("most", x.most(), 2);
+        row(x, 3);
+        due("longest(0)", x.longest(0), 3);
+        row(x, 2);
+        due("longest(3)", x.longest(3), 1);
+        row(x, 0);
+        due("cheapest", x.cheapest(), 10010);
+        row(x, 0, 4, 5, 2, 1, 6, 3, 7);
+        due("rule", rule(x, "-m"), 0);
+        due("dearest", x.dearest(), 9990);
+        row(x, 1, 1);
     }
 
     private static void noneFitsLeavesTheRow() {

@@ -44,8 +44,8 @@ public final class FaceTests {
                 wrong.add("class " + inside.getName());
             }
             for (Method method : inside.getDeclaredMethods()) {
-                if (names.contains(method.getName())) {
-                    wrong.add("method " + method.getName() + " of " + inside.getName());
+                if (Modifier.isPrivate(method.getModifiers()) && names.contains(method.getName())) {
+                    wrong.add("private method " + method.getName() + " of " + inside.getName());
                 }
             }
         }

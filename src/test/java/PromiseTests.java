@@ -47,6 +47,7 @@ public final class PromiseTests extends Checks {
         countAndRow();
         refusedChangesNothing();
         answersKeepUp();
+        exampleOfTheReadme();
         finish("promises");
     }
 
@@ -1125,6 +1126,25 @@ public final class PromiseTests extends Checks {
         row(x, 0, 1);
         x.met(0, 2);
         row(x, 0, 1);
+    }
+
+    private static void exampleOfTheReadme() {
+        promise = "README";
+        InnRegister x = new InnRegister();
+        due("guests()", guests(x, "3;3;5"), 3);
+        due("meetings()", meetings(x, "01+;12-"), 2);
+        due("orders()", x.orders(), 16);
+        due("first()", x.first(), 6);
+        row(x, 0, 2, 1, 3, 4, 5);
+        due("met(0, 2)", x.met(0, 2), 0);
+        row(x, 1, 2);
+        due("tells(0, 2, 1)", x.tells(0, 2, 1), 12);
+        due("orders()", x.orders(), 8);
+        due("strict(1)", x.strict(1), 0);
+        due("first()", x.first(), -2);
+        row(x, 1, 2);
+        due("undo()", x.undo(), 2);
+        due("tells(0, 9, 1)", x.tells(0, 9, 1), InnRegister.NONE);
     }
 
     private static void refusedChangesNothing() {
